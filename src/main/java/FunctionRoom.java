@@ -15,7 +15,7 @@ public final class FunctionRoom {
         0xAAAAAAAAAAAAAAAAL, 0xCCCCCCCCCCCCCCCCL, 0xF0F0F0F0F0F0F0F0L,
         0xFF00FF00FF00FF00L, 0xFFFF0000FFFF0000L, 0xFFFFFFFF00000000L};
 
-    /** Above every name that a block can get (see joinHalves), so that two names fit in an int. */
+    /** Enough for every name that a block can get (see joinHalves), and two names fit in an int. */
     private static final int NAME_BITS = 10;
 
     /** The names 0 and 1 are those of the functions that are always 0 and always 1. */

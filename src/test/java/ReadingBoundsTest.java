@@ -31,6 +31,7 @@ public final class ReadingBoundsTest {
         sameOfEachOf512();
         partsThatAreOne();
         partsThatAreNone();
+        partsAlikeInTheirNames();
         Check.end();
     }
 
@@ -323,6 +324,27 @@ public final class ReadingBoundsTest {
         sizeDue("01100110", 3);
         sizeDue("0000000000001111", 2);
         sizeDue("0101010110101010", 3);
+    }
+
+    /**
+     * Made for a program that counts parts by numbering them from the last variable on: with 0 and 1 for the
+     * constants, 2 to 15 for the parts of one and two variables and 16 to 65 for those of three, two parts of four
+     * have the halves 64 and 65, and 65 and 1. They must not become one where a number is packed into six bits.
+     */
+    private static void partsAlikeInTheirNames() {
+        StringBuilder table = new StringBuilder();
+        String last = "";
+        int made = 0;
+        for (int number = 0; made < 50; number++) {
+            if (number / 16 != number % 16) {
+                last = fourBits(number / 16) + fourBits(number);
+                table.append(last);
+                made++;
+            }
+        }
+        table.append(last).append("1".repeat(8));
+        table.append("0".repeat(512 - table.length()));
+        sizeDue(table.toString(), 117);
     }
 
     private static void mattersTakes(int variables) {
